@@ -60,15 +60,17 @@ public final class LabelledTables {
         Session worker = sessions[session];
         boolean understood = parser.parse(worker.draft, worker.draftLength);
         worker.draftLength = 0;
-        Statement statement = parser.statement;
         if (!understood) {
             return NO_STATEMENT;
         }
-        if (statement.hasWrongNames()) {
+        if (parser.statement.hasWrongNames()) {
             return WRONG_NAMES;
         }
-        return statement.verb == Token.SELECT
-                ? select(worker, statement) : change(worker.store, session, statement);
+        if (parser.statement.verb != Token.SELECT) {
+            return change(worker.store, session);
+        }
+        lookForSelection(worker.store.label);
+        return selection.select(worker);
     }
 
     public int begin(int session) {
@@ -201,20 +203,19 @@ public final class LabelledTables {
         }
     }
 
-    private int select(Session worker, Statement statement) {
-        look(worker.store.label, statement.first, selection.first);
-        if (statement.hasTwoTables()) {
-            look(worker.store.label, statement.second, selection.second);
+    private void lookForSelection(int label) {
+        look(label, parser.statement.first, selection.first);
+        if (parser.statement.hasTwoTables()) {
+            look(label, parser.statement.second, selection.second);
         }
-        return selection.select(worker);
     }
 
-    private int change(Store store, int session, Statement statement) {
+    private int change(Store store, int session) {
         if (store.holder != NONE && store.holder != session) {
             return IN_USE;
         }
-        look(store.label, statement.first, seen);
-        int answer = store.change(statement, seen);
+        look(store.label, parser.statement.first, seen);
+        int answer = store.change(parser.statement, seen);
         if (store.holder == NONE && store.keep() == NO_ROOM) {
             store.drop();
             return NO_ROOM;
@@ -387,7 +388,7 @@ public final class LabelledTables {
         }
 
         private int insert(Statement statement, Rows own) {
-            for (int column = 0; column < statement.xs; column++) {
+            for (int column = K; column <= W; column++) {
                 made[column] = statement.workOut(statement.x[column]);
             }
             made[LAB] = label;
@@ -489,16 +490,24 @@ public final class LabelledTables {
         INSERT("insert"), UPDATE("update"), DELETE("delete"), SELECT("select"), TOP("top"),
         FROM("from"), WHERE("where"), GROUP("group"), ORDER("order"), DESC("desc"),
         COUNT("count"), SUM("sum"), AND("and"), OR("or"), NOT("not"),
-        COLUMN_K("k"), COLUMN_V("v"), COLUMN_W("w"), COLUMN_LAB("lab"), NAME_A("A"), NAME_B("B"),
-        OPEN("("), CLOSE(")"), OPEN_CONDITION("["), CLOSE_CONDITION("]"), COMMA(","), PERIOD("."),
+        COLUMN_K("k", K), COLUMN_V("v", V), COLUMN_W("w", W), COLUMN_LAB("lab", LAB),
+        NAME_A("A"), NAME_B("B"), PERIOD("."), COMMA(","),
+        OPEN("("), CLOSE(")"), OPEN_CONDITION("["), CLOSE_CONDITION("]"),
         PLUS("+"), MINUS("-"), TIMES("*"), EQUAL("="), LESS("<"), GREATER(">"),
         NUMBER(""), COLUMN(""), OTHER(""), END("");
 
         private static final Token[] ALL = values();
         private final String text;
+        /** The column that it means, or NONE. */
+        final int column;
 
         Token(String text) {
+            this(text, NONE);
+        }
+
+        Token(String text, int column) {
             this.text = text;
+            this.column = column;
         }
 
         /** The token whose text stands in these characters from start on, before end. */
@@ -524,54 +533,44 @@ public final class LabelledTables {
         }
     }
 
-    /** Reads a text token by token. */
+    /** The tokens of a text, with END behind the last one. */
     private static final class Scanner {
         private static final int SINGLE = 0;
         private static final int LETTER = 1;
         private static final int DIGIT = 2;
 
-        private final char[] text = new char[MOST_CHARACTERS];
-        private int length;
-        /** Where the token ends. */
-        private int end;
-        Token token = Token.END;
-        /** What the token is, when it is a number. */
-        int number;
+        final Token[] tokens = new Token[MOST_CHARACTERS + 1];
+        /** For each token what it is, when it is a number. */
+        final int[] numbers = new int[MOST_CHARACTERS + 1];
 
-        void start(char[] characters, int count) {
-            System.arraycopy(characters, 0, text, 0, count);
-            length = count;
-            end = 0;
-            next();
+        void scan(char[] text, int length) {
+            int count = 0;
+            int end = 0;
+            for (int start = 0; start < length; start++) {
+                if (start < end || text[start] == ' ') {
+                    continue;
+                }
+                end = endOf(text, start, length);
+                if (kindOf(text[start]) != DIGIT) {
+                    tokens[count] = Token.of(text, start, end);
+                } else if (end - start > MOST_DIGITS) {
+                    tokens[count] = Token.OTHER;
+                } else {
+                    tokens[count] = Token.NUMBER;
+                    numbers[count] = numberOf(text, start, end);
+                }
+                count++;
+            }
+            tokens[count] = Token.END;
         }
 
-        void next() {
-            int start = end;
-            while (start < length && text[start] == ' ') {
-                start++;
-            }
-            end = start;
-            if (start == length) {
-                token = Token.END;
-                return;
-            }
+        private static int endOf(char[] text, int start, int length) {
             int kind = kindOf(text[start]);
-            end++;
+            int end = start + 1;
             while (kind != SINGLE && end < length && kindOf(text[end]) == kind) {
                 end++;
             }
-            token = kind == DIGIT ? readNumber(start) : Token.of(text, start, end);
-        }
-
-        private Token readNumber(int start) {
-            if (end - start > MOST_DIGITS) {
-                return Token.OTHER;
-            }
-            number = 0;
-            for (int i = start; i < end; i++) {
-                number = number * 10 + (text[i] - '0');
-            }
-            return Token.NUMBER;
+            return end;
         }
 
         private static int kindOf(char c) {
@@ -579,6 +578,14 @@ public final class LabelledTables {
                 return LETTER;
             }
             return c >= '0' && c <= '9' ? DIGIT : SINGLE;
+        }
+
+        private static int numberOf(char[] text, int start, int end) {
+            int number = 0;
+            for (int i = start; i < end; i++) {
+                number = number * 10 + (text[i] - '0');
+            }
+            return number;
         }
     }
 
@@ -589,7 +596,7 @@ public final class LabelledTables {
         static final int COUNT = 2;
         static final int SUM = 3;
 
-        /** No token makes more than two steps. */
+        /** No token makes more than two steps, in a text that is no statement neither. */
         private static final int MOST_STEPS = 2 * MOST_CHARACTERS;
 
         int kind = ABSENT;
@@ -603,9 +610,19 @@ public final class LabelledTables {
             size = 0;
         }
 
-        void add(Token step, int operand) {
-            steps[size] = step;
+        boolean isSummary() {
+            return kind == COUNT || kind == SUM;
+        }
+
+        /** Adds a step that puts a number, or a column's value, on the stack. */
+        void put(Token step, int operand) {
             operands[size] = operand;
+            join(step);
+        }
+
+        /** Adds a step that takes from the stack what its sign joins. */
+        void join(Token sign) {
+            steps[size] = sign;
             size++;
         }
 
@@ -623,13 +640,13 @@ public final class LabelledTables {
                     stack[height - 1] = 1 - stack[height - 1];
                 } else {
                     height--;
-                    stack[height - 1] = join(stack[height - 1], steps[i], stack[height]);
+                    stack[height - 1] = joined(stack[height - 1], steps[i], stack[height]);
                 }
             }
             return stack[0];
         }
 
-        private static int join(int left, Token sign, int right) {
+        private static int joined(int left, Token sign, int right) {
             if (sign == Token.PLUS) {
                 return left + right;
             }
@@ -645,14 +662,10 @@ public final class LabelledTables {
             if (sign == Token.OR) {
                 return left | right;
             }
-            return compare(left, sign, right) ? 1 : 0;
-        }
-
-        private static boolean compare(int left, Token sign, int right) {
             if (sign == Token.EQUAL) {
-                return left == right;
+                return left == right ? 1 : 0;
             }
-            return sign == Token.LESS ? left < right : left > right;
+            return (sign == Token.LESS ? left < right : left > right) ? 1 : 0;
         }
     }
 
@@ -668,14 +681,14 @@ public final class LabelledTables {
         int second;
         /** The column that an update changes. */
         int column;
+        /** How many X stand before from. */
         int xs;
         /** Of an insert the three values, of an update the value. */
         final Code[] x = new Code[MOST_XS];
         final Code where = new Code();
         final Code group = new Code();
         final Code order = new Code();
-        private boolean hasUnnamed;
-        private final boolean[] hasNamed = new boolean[TABLES];
+        final boolean[] hasColumnOf = new boolean[TABLES + 1];
         /** For each table, and for UNNAMED, the row that its COLs are of. */
         private final int[][] rowOf = new int[TABLES + 1][COLUMNS];
 
@@ -685,21 +698,17 @@ public final class LabelledTables {
             }
         }
 
+        /** Makes it one without all that a statement may leave out. */
         void clear() {
-            top = false;
-            descending = false;
-            first = NONE;
             second = NONE;
-            xs = 0;
             for (int i = 0; i < MOST_XS; i++) {
                 x[i].clear();
             }
             where.clear();
             group.clear();
             order.clear();
-            hasUnnamed = false;
-            for (int table = 0; table < TABLES; table++) {
-                hasNamed[table] = false;
+            for (int table = 0; table <= UNNAMED; table++) {
+                hasColumnOf[table] = false;
             }
         }
 
@@ -707,39 +716,28 @@ public final class LabelledTables {
             return second != NONE;
         }
 
-        void addColumn(Code code, int table, int columnOfTable) {
-            if (table == UNNAMED) {
-                hasUnnamed = true;
-            } else {
-                hasNamed[table] = true;
+        boolean hasWrongNames() {
+            boolean wrong = first == second;
+            for (int table = 0; table <= UNNAMED; table++) {
+                wrong = wrong || hasColumnOf[table] && !mayHaveColumnOf(table);
             }
-            code.add(Token.COLUMN, table * COLUMNS + columnOfTable);
+            return wrong;
         }
 
-        boolean hasWrongNames() {
-            if (first == second || hasUnnamed && (hasTwoTables() || verb == Token.INSERT)) {
-                return true;
+        private boolean mayHaveColumnOf(int table) {
+            if (verb == Token.INSERT) {
+                return false;
             }
-            for (int table = 0; table < TABLES; table++) {
-                boolean mayBeNamed = (table == first || table == second) && verb != Token.INSERT;
-                if (hasNamed[table] && !mayBeNamed) {
-                    return true;
-                }
-            }
-            return false;
+            return table == UNNAMED ? !hasTwoTables() : table == first || table == second;
         }
 
         /** Whether all that is found makes one group, when nothing else parts it. */
         boolean isSummary() {
-            boolean summary = isSummary(order);
+            boolean summary = order.isSummary();
             for (int i = 0; i < xs; i++) {
-                summary = summary || isSummary(x[i]);
+                summary = summary || x[i].isSummary();
             }
             return summary;
-        }
-
-        private static boolean isSummary(Code code) {
-            return code.kind == Code.COUNT || code.kind == Code.SUM;
         }
 
         void point(int[] row) {
@@ -752,7 +750,7 @@ public final class LabelledTables {
         }
 
         boolean holds() {
-            return where.kind == Code.ABSENT || workOut(where) == 1;
+            return where.kind == Code.ABSENT || where.workOut(rowOf) == 1;
         }
 
         int workOut(Code code) {
@@ -767,65 +765,74 @@ public final class LabelledTables {
     private static final class Parser {
         final Statement statement = new Statement();
         private final Scanner scanner = new Scanner();
+        /** The place of the next token. */
+        private int at;
         private boolean wrong;
 
         boolean parse(char[] text, int length) {
-            statement.clear();
-            scanner.start(text, length);
+            scanner.scan(text, length);
+            at = 0;
             wrong = false;
-            statement.verb = scanner.token;
+            statement.clear();
+            statement.verb = next();
             if (take(Token.INSERT)) {
                 readInsert();
             } else if (take(Token.UPDATE)) {
                 readUpdate();
+                readWhere();
             } else if (take(Token.DELETE)) {
                 statement.first = readTable();
                 readWhere();
             } else if (take(Token.SELECT)) {
-                readSelect();
+                readSelected();
+                readWhere();
+                readArrangement();
             } else {
                 wrong = true;
             }
-            return !wrong && scanner.token == Token.END;
+            return !wrong && next() == Token.END;
+        }
+
+        private Token next() {
+            return scanner.tokens[at];
         }
 
         private boolean take(Token token) {
-            if (scanner.token != token) {
-                return false;
+            boolean taken = scanner.tokens[at] == token;
+            if (taken) {
+                at++;
             }
-            scanner.next();
-            return true;
+            return taken;
         }
 
         private void need(Token token) {
-            if (!take(token)) {
+            if (scanner.tokens[at] == token) {
+                at++;
+            } else {
                 wrong = true;
             }
         }
 
         private void readInsert() {
             statement.first = readTable();
-            readValue(statement.x[0]);
+            readE(statement.x[0], 0);
             need(Token.COMMA);
-            readValue(statement.x[1]);
+            readE(statement.x[1], 0);
             need(Token.COMMA);
-            readValue(statement.x[2]);
-            statement.xs = 3;
+            readE(statement.x[2], 0);
         }
 
         private void readUpdate() {
             statement.first = readTable();
-            statement.column = readColumn();
-            if (statement.column != V && statement.column != W) {
-                wrong = true;
+            statement.column = take(Token.COLUMN_V) ? V : W;
+            if (statement.column == W) {
+                need(Token.COLUMN_W);
             }
             need(Token.EQUAL);
-            readValue(statement.x[0]);
-            statement.xs = 1;
-            readWhere();
+            readE(statement.x[0], 0);
         }
 
-        private void readSelect() {
+        private void readSelected() {
             statement.top = take(Token.TOP);
             readX(statement.x[0]);
             statement.xs = 1;
@@ -838,10 +845,12 @@ public final class LabelledTables {
             if (take(Token.COMMA)) {
                 statement.second = readTable();
             }
-            readWhere();
+        }
+
+        private void readArrangement() {
             if (take(Token.GROUP)) {
                 statement.group.kind = Code.PLAIN;
-                readNamedColumn(statement.group);
+                readColumn(statement.group);
             }
             if (take(Token.ORDER)) {
                 readX(statement.order);
@@ -853,18 +862,14 @@ public final class LabelledTables {
             if (take(Token.COUNT)) {
                 code.kind = Code.COUNT;
             } else if (take(Token.SUM)) {
-                need(Token.OPEN);
-                readValue(code);
-                need(Token.CLOSE);
                 code.kind = Code.SUM;
+                need(Token.OPEN);
+                readE(code, 0);
+                need(Token.CLOSE);
             } else {
-                readValue(code);
+                code.kind = Code.PLAIN;
+                readE(code, 0);
             }
-        }
-
-        private void readValue(Code code) {
-            code.kind = Code.PLAIN;
-            readE(code, 0);
         }
 
         private void readWhere() {
@@ -882,44 +887,33 @@ public final class LabelledTables {
             return 1;
         }
 
-        private int readColumn() {
-            if (take(Token.COLUMN_K)) {
-                return K;
-            }
-            if (take(Token.COLUMN_V)) {
-                return V;
-            }
-            if (take(Token.COLUMN_W)) {
-                return W;
-            }
-            return take(Token.COLUMN_LAB) ? LAB : NONE;
-        }
-
-        private void readNamedColumn(Code code) {
+        private void readColumn(Code code) {
             int table = Statement.UNNAMED;
-            if (scanner.token == Token.NAME_A || scanner.token == Token.NAME_B) {
+            if (next() == Token.NAME_A || next() == Token.NAME_B) {
                 table = readTable();
                 need(Token.PERIOD);
             }
-            int column = readColumn();
+            int column = next().column;
             if (column == NONE) {
                 wrong = true;
-            } else {
-                statement.addColumn(code, table, column);
+                return;
             }
+            at++;
+            statement.hasColumnOf[table] = true;
+            code.put(Token.COLUMN, table * COLUMNS + column);
         }
 
         private void readE(Code code, int depth) {
             readP(code, depth);
-            for (int i = 0; i < MOST_CHARACTERS && isSum(scanner.token); i++) {
-                Token sign = scanner.token;
-                scanner.next();
+            for (int i = 0; i < MOST_CHARACTERS && isSign(next()); i++) {
+                Token sign = next();
+                at++;
                 readP(code, depth);
-                code.add(sign, 0);
+                code.join(sign);
             }
         }
 
-        private static boolean isSum(Token token) {
+        private static boolean isSign(Token token) {
             return token == Token.PLUS || token == Token.MINUS;
         }
 
@@ -927,27 +921,27 @@ public final class LabelledTables {
             readF(code, depth);
             for (int i = 0; i < MOST_CHARACTERS && take(Token.TIMES); i++) {
                 readF(code, depth);
-                code.add(Token.TIMES, 0);
+                code.join(Token.TIMES);
             }
         }
 
         private void readF(Code code, int depth) {
-            if (scanner.token == Token.NUMBER) {
-                code.add(Token.NUMBER, scanner.number);
-                scanner.next();
+            if (next() == Token.NUMBER) {
+                code.put(Token.NUMBER, scanner.numbers[at]);
+                at++;
             } else if (take(Token.OPEN)) {
                 if (mayNest(depth)) {
                     readE(code, depth + 1);
                 }
                 need(Token.CLOSE);
             } else if (take(Token.MINUS)) {
-                code.add(Token.NUMBER, 0);
+                code.put(Token.NUMBER, 0);
                 if (mayNest(depth)) {
                     readF(code, depth + 1);
                 }
-                code.add(Token.MINUS, 0);
+                code.join(Token.MINUS);
             } else {
-                readNamedColumn(code);
+                readColumn(code);
             }
         }
 
@@ -955,7 +949,7 @@ public final class LabelledTables {
             readK(code, depth);
             for (int i = 0; i < MOST_CHARACTERS && take(Token.OR); i++) {
                 readK(code, depth);
-                code.add(Token.OR, 0);
+                code.join(Token.OR);
             }
         }
 
@@ -963,7 +957,7 @@ public final class LabelledTables {
             readN(code, depth);
             for (int i = 0; i < MOST_CHARACTERS && take(Token.AND); i++) {
                 readN(code, depth);
-                code.add(Token.AND, 0);
+                code.join(Token.AND);
             }
         }
 
@@ -977,22 +971,17 @@ public final class LabelledTables {
                 if (mayNest(depth)) {
                     readN(code, depth + 1);
                 }
-                code.add(Token.NOT, 0);
+                code.join(Token.NOT);
             } else {
-                readComparison(code, depth);
+                readE(code, depth);
+                Token sign = next();
+                if (sign != Token.EQUAL && sign != Token.LESS) {
+                    sign = Token.GREATER;
+                }
+                need(sign);
+                readE(code, depth);
+                code.join(sign);
             }
-        }
-
-        private void readComparison(Code code, int depth) {
-            readE(code, depth);
-            Token sign = scanner.token;
-            if (sign != Token.EQUAL && sign != Token.LESS && sign != Token.GREATER) {
-                wrong = true;
-                return;
-            }
-            scanner.next();
-            readE(code, depth);
-            code.add(sign, 0);
         }
 
         private boolean mayNest(int depth) {
@@ -1072,6 +1061,10 @@ public final class LabelledTables {
                     || statement.hasTwoTables() && second.covers(second.row[j]);
         }
 
+        private void pointFound(int i) {
+            point(foundFirst[i], foundSecond[i]);
+        }
+
         private void point(int i, int j) {
             statement.point(first.row[i]);
             if (statement.hasTwoTables()) {
@@ -1086,7 +1079,8 @@ public final class LabelledTables {
             for (int i = 0; i < found; i++) {
                 int like = NONE;
                 if (statement.group.kind != Code.ABSENT) {
-                    mark[i] = workOut(statement.group, i);
+                    pointFound(i);
+                    mark[i] = statement.workOut(statement.group);
                     like = firstWithMarkOf(i);
                 } else if (together && i > 0) {
                     like = 0;
@@ -1127,17 +1121,13 @@ public final class LabelledTables {
                 if (groupOf[i] != group) {
                     continue;
                 }
+                pointFound(i);
                 if (x.kind == Code.PLAIN) {
-                    return workOut(x, i);
+                    return statement.workOut(x);
                 }
-                total += x.kind == Code.COUNT ? 1 : workOut(x, i);
+                total += x.kind == Code.COUNT ? 1 : statement.workOut(x);
             }
             return total;
-        }
-
-        private int workOut(Code code, int i) {
-            point(foundFirst[i], foundSecond[i]);
-            return statement.workOut(code);
         }
     }
 }

@@ -2,12 +2,34 @@ import java.util.Random;
 
 /** Texts for drafts: most are statements, some are nearly statements. The seed gives them all. */
 final class Drafts {
+    private static final String[] TOKENS = {
+        "insert", "update", "delete", "select", "top", "from", "where", "group", "order", "desc", "count", "sum",
+        "and", "or", "not", "k", "v", "w", "lab", "A", "B", "A.k", "(", ")", "[", "]", ",", ".", "+", "-", "*",
+        "=", "<", ">", "1", "23",
+    };
+
     private final Random random;
+    /** Whether the tables are to become full: with more inserts, and more selects of both tables. */
+    private final boolean full;
     private boolean two;
     private String table = "A";
 
     Drafts(Random random) {
         this.random = random;
+        full = chance(40);
+    }
+
+    /** A text that begins like a statement, and goes on with any tokens, as many as there is room for. */
+    static String soup(Random random) {
+        String[] starts = {"", "select ", "delete A where ", "update B v=", "insert A ", "select k from A order "};
+        StringBuilder text = new StringBuilder(starts[random.nextInt(starts.length)]);
+        int first = random.nextInt(TOKENS.length);
+        int kinds = 1 + random.nextInt(random.nextBoolean() ? 4 : TOKENS.length);
+        while (text.length() < 80) {
+            String token = TOKENS[(first + random.nextInt(kinds) * 7) % TOKENS.length];
+            text.append(Character.isLetter(token.charAt(0)) ? " " : "").append(token);
+        }
+        return text.substring(0, 80);
     }
 
     private boolean chance(int percent) {
@@ -41,20 +63,20 @@ final class Drafts {
         two = false;
         table = oneOf("A", "A", "B");
         int kind = random.nextInt(100);
-        if (kind < 30) {
+        if (kind < (full ? 50 : 30)) {
             return "insert " + table + " " + number() + "," + constant() + "," + constant();
         }
-        if (kind < 42) {
+        if (kind < (full ? 52 : 42)) {
             return "delete " + table + where(95);
         }
-        if (kind < 62) {
-            return "update " + table + " " + oneOf("v", "w") + "=" + value(1) + where(60);
+        if (kind < (full ? 75 : 62)) {
+            return "update " + table + " " + oneOf("v", "w") + "=" + value(1) + where(full ? 30 : 60);
         }
         return select();
     }
 
     private String select() {
-        two = chance(25);
+        two = chance(full ? 60 : 25);
         String tables = table + (two ? "," + (chance(96) ? table.equals("A") ? "B" : "A" : table) : "");
         StringBuilder text = new StringBuilder("select " + (chance(25) ? "top " : "") + x());
         for (int i = 0; i < 2 && chance(50); i++) {

@@ -1,3 +1,5 @@
+import java.util.Random;
+
 /** Promise 3: which drafts are statements (-2), and which names they may use (-3). */
 final class TextTest {
     static void test(Checks checks) {
@@ -6,6 +8,7 @@ final class TextTest {
         testNests(checks);
         testNames(checks);
         testPrecedence(checks);
+        testSoup(checks);
     }
 
     /** Runs the texts in objects with one row 1, 2, 3 in A at label 0. */
@@ -96,6 +99,7 @@ final class TextTest {
                 "select k from A where [[not not[(k)=-k+2]]]",
                 "select sum(((((((k))))))) from A", "select ((((((k))))))+((((((k)))))) from A",
                 "select k from A order ((((((k))))))", "update A v=((((((1))))))", "insert B ((((((1)))))),1,------1",
+                "insert B 1,((((((1)))))),1", "insert B ------1,1,((((((1))))))",
                 "select k from A where [[[k=1]]]and[[[[[[k=1]]]]]]and not not not not[[k=1]]");
         all(checks, "a nest in six others", -2,
                 "select (((((((k))))))) from A", "select -------k from A", "select -(-(-(-k))) from A",
@@ -103,7 +107,10 @@ final class TextTest {
                 "select k from A where [[[[[[(k)=1]]]]]]", "select k from A where [[[[[[1=-k]]]]]]",
                 "select k from A where [[not not[(-(k))=1]]]", "select sum((((((((k)))))))) from A",
                 "select ((((((k))))))+(((((((k))))))) from A", "select k from A order (((((((k)))))))",
-                "update A v=(((((((1)))))))", "insert B 1,1,-------1", "insert B 1,(((((((k))))))),1");
+                "update A v=(((((((1)))))))", "insert B 1,1,-------1", "insert B 1,(((((((k))))))),1",
+                "insert B (((((((1))))))),1,1", "insert B 1,1,(((((((1)))))))",
+                "select --------1 from A", "select ((((((()))))))+1 from A", "delete A where [[[[[[[]]]]]]]",
+                "select -------+1 from A", "select -------*1 from A", "delete A where [[[[[[not]]]]]]");
         all(checks, "the longest chains", 1,
                 "select 1+1+1+1+1+1+1+1+1+1+1+1+1+1+1+1+1+1+1+1+1+1+1+1+1+1+1+1+1+1+1+1+1from A",
                 "select k from A where 1=1or 1=1or 1=1or 1=1or 1=1or 1=1or 1=1or 1=1or 1=1or 1=1");
@@ -135,6 +142,22 @@ final class TextTest {
                 .select(0, "select A.k,B.k,A.v*B.w from A,B where A.k<B.k group B.v order A.w", "1 4 12")
                 .select(0, "select A.k,B.k,A.lab from B,A", "1 4 0").select(0, "select count from B,A", "1")
                 .select(0, "select 7,B.v,B.w from A,B", "7 5 6");
+    }
+
+    /** Texts of any tokens, which are statements by chance alone, answer as in the model. */
+    private static void testSoup(Checks checks) {
+        Random random = new Random(17);
+        for (int i = 0; i < 20000; i++) {
+            String text = Drafts.soup(random);
+            LabelledTables tables = new LabelledTables(0, 0, 0, 0);
+            Model model = new Model(0, 0, 0, 0);
+            for (int at = 0; at < 80; at += 8) {
+                long w = Trial.pack(text.substring(at, at + 8));
+                tables.write(0, w);
+                model.write(0, w);
+            }
+            checks.same("promise 3: run of '" + text + "'", model.run(0), tables.run(0));
+        }
     }
 
     private static void testPrecedence(Checks checks) {
