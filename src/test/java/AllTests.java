@@ -11,6 +11,13 @@ public final class AllTests {
         TransactionTest.test(checks);
         CrashTest.test(checks);
         SeenTest.test(checks);
+        LabelBoundsTest.test(checks);
+        TextBoundsTest.test(checks);
+        NestBoundsTest.test(checks);
+        ChangeBoundsTest.test(checks);
+        SelectBoundsTest.test(checks);
+        LogBoundsTest.test(checks);
+        CallBoundsTest.test(checks);
         ModelTest.test(checks);
         SecrecyTest.test(checks);
         System.out.println(checks.passed + " passed, " + checks.failed + " failed");

@@ -11,12 +11,8 @@ final class TextTest {
         testSoup(checks);
     }
 
-    /** Runs the texts in objects with one row 1, 2, 3 in A at label 0. */
     private static void all(Checks checks, String name, int due, String... texts) {
-        for (String text : texts) {
-            new Trial(checks, "promise 3: " + name, 0, 0, 0, 0)
-                    .run(0, "insert A 1,2,3", 1).run(0, text, due);
-        }
+        Trial.each(checks, "promise 3: " + name, due, texts);
     }
 
     private static void testTokens(Checks checks) {

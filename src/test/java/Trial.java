@@ -18,6 +18,18 @@ final class Trial {
         calls.add("new(" + label0 + "," + label1 + "," + label2 + "," + label3 + ")");
     }
 
+    /** Runs each of the texts at label 0 in an object of its own, where A has one row, 1 2 3, and B none. */
+    static void each(Checks checks, String name, int due, String... texts) {
+        for (String text : texts) {
+            new Trial(checks, name, 0, 0, 0, 0).run(0, "insert A 1,2,3", 1).run(0, text, due);
+        }
+    }
+
+    /** Works out an expression that has no columns. */
+    static void worth(Checks checks, String name, String expression, int due) {
+        new Trial(checks, name, 0, 0, 0, 0).run(0, "insert B 7," + expression + ",8", 1).sees(0, B, "7 " + due + " 8 0");
+    }
+
     /** The characters as the bytes of one long, from the highest on; at most eight. */
     static long pack(String text) {
         long w = 0;
@@ -25,6 +37,11 @@ final class Trial {
             w = w << 8 | text.charAt(i) & 255;
         }
         return w;
+    }
+
+    /** How many calls were made on the object. */
+    int made() {
+        return calls.size() - 1;
     }
 
     private void due(String call, long due, long answered) {
@@ -44,6 +61,24 @@ final class Trial {
     Trial write(int session, long w, boolean due) {
         due("write(" + session + "," + w + ")", due ? 1 : 0, tables.write(session, w) ? 1 : 0);
         return this;
+    }
+
+    /** Inserts rows with the keys from first to last, all with the values 0. */
+    Trial fill(int session, String table, int first, int last) {
+        for (int key = first; key <= last; key++) {
+            run(session, "insert " + table + " " + key + ",0,0", 1);
+        }
+        return this;
+    }
+
+    /** Writes as many records (2 or more) into the log of a session's label, in which there is none. */
+    Trial records(int session, int count) {
+        int odd = count % 2;
+        begin(session, 0).fill(session, "B", 0, odd).commit(session, 2 + odd);
+        for (int i = 2 + odd; i < count; i += 2) {
+            run(session, "update B v=v+1 where k=0", 1);
+        }
+        return log(session, count);
     }
 
     /** Writes the text and runs it. */
