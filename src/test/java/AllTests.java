@@ -3,6 +3,7 @@ public final class AllTests {
     public static void main(String[] args) {
         Checks checks = new Checks();
         FaceTest.test(checks);
+        ReadmeTest.test(checks);
         NewObjectTest.test(checks);
         DraftTest.test(checks);
         TextTest.test(checks);
